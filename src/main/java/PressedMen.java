@@ -1377,14 +1377,17 @@ public final class PressedMen {
         }
     }
 
-    /** Gangs laid out in a town: the streets of each, step by step. */
+    /** Gangs laid out in a town: the streets of each, step by step.
+        A gang goes no faster than news: once it met men, or came where they had HEARD, wherever it comes
+        next has HEARD too. So it meets men, if at all, only where it first comes to some; and walks that
+        first come to men in the same street and step are of one kind, of which the first is enough. */
     private static final class Gangs {
+        private static final int TO_NOBODY = MOST_STEPS * MOST_STREETS;
+
         private final Town town;
         private final int[] takeable = new int[MOST_STREETS];
-        private final int[] metInStep = new int[MOST_STREETS];
-        private final int[] walks = new int[MOST_GANGS * MOST_STEPS];
-        private int best;
-        private int secondBest;
+        private final int[] firstWalks = new int[TO_NOBODY + 1];
+        private final int[] walked = new int[MOST_GANGS * MOST_STEPS];
 
         Gangs(Town town) {
             this.town = town;
@@ -1401,108 +1404,109 @@ public final class PressedMen {
         }
 
         int streetOf(int gang, int step) {
-            return walks[gang * MOST_STEPS + step];
+            return walked[gang * MOST_STEPS + step];
         }
 
-        /** A gang that met men goes no faster than the news of it: wherever it comes next has HEARD.
-            So each meets men in one street at most, and in step 0 no street has HEARD:
-            the most are those of the best streets, whatever the steps. */
+        /** In step 0 no street has HEARD: gangs that begin in the best streets meet the most there is. */
         int mostMet(int gangCount) {
-            best = 0;
-            secondBest = 0;
+            int best = 0;
+            int second = 0;
             for (int s = 0; s < town.streets; s++) {
                 if (takeable[s] > best) {
-                    secondBest = best;
+                    second = best;
                     best = takeable[s];
-                } else if (takeable[s] > secondBest) {
-                    secondBest = takeable[s];
+                } else if (takeable[s] > second) {
+                    second = takeable[s];
                 }
             }
-            return gangCount == 1 ? best : best + secondBest;
+            return gangCount == 1 ? best : best + second;
         }
 
-        /** Paths are tried in the order of their streets: the first that meets the most stays. */
         void lay(int gangCount, int steps) {
             int most = mostMet(gangCount);
-            int least = gangCount == 1 ? best : secondBest;
-            int paths = pathCount(steps);
-            for (int path = 0; path < paths; path++) {
-                // One that alone meets fewer than its share can't come to the most with another.
-                if (isWalk(0, path, steps) && firstTakeable(0, steps) >= least
-                        && restLaid(gangCount, steps, most)) {
-                    return;
+            findFirstWalks(steps);
+            int best = NEVER;
+            int bestMate = NEVER;
+            for (int kind = 0; kind <= TO_NOBODY; kind++) {
+                int mate = firstWalks[kind] < best ? firstMate(kind, gangCount, most) : NEVER;
+                if (mate < NEVER) {
+                    best = firstWalks[kind];
+                    bestMate = mate;
                 }
             }
+            walkOut(0, best, steps);
+            walkOut(1, bestMate, steps);
         }
 
-        private boolean restLaid(int gangCount, int steps, int most) {
+        /** The first walk of gang 1 with which both meet the most; one gang alone needs none. */
+        private int firstMate(int kind, int gangCount, int most) {
             if (gangCount == 1) {
-                return true;
+                return menMet(kind) == most ? 0 : NEVER;
             }
-            int lacking = most - firstTakeable(0, steps);
-            int paths = pathCount(steps);
-            for (int path = 0; path < paths; path++) {
-                if (isWalk(1, path, steps) && firstTakeable(1, steps) >= lacking
-                        && metOnWalks(gangCount, steps) == most) {
-                    return true;
+            int first = NEVER;
+            for (int other = 0; other <= TO_NOBODY; other++) {
+                if (firstWalks[other] < first && menMetByBoth(kind, other) == most) {
+                    first = firstWalks[other];
                 }
             }
-            return false;
+            return first;
         }
 
-        private int pathCount(int steps) {
-            int paths = 1;
-            for (int step = 0; step < steps; step++) {
-                paths *= town.streets;
+        private int menMet(int kind) {
+            return kind == TO_NOBODY ? 0 : takeable[kind % MOST_STREETS];
+        }
+
+        private int menMetByBoth(int a, int b) {
+            if (a == TO_NOBODY || b == TO_NOBODY) {
+                return menMet(a) + menMet(b);
             }
-            return paths;
+            int early = Math.min(a, b);
+            int late = Math.max(a, b);
+            int stepsAgo = late / MOST_STREETS - early / MOST_STREETS;
+            int hops = town.hops(early % MOST_STREETS, late % MOST_STREETS);
+            boolean metOnce = hops == 0 || (stepsAgo > 0 && stepsAgo >= hops);
+            return metOnce ? menMet(early) : menMet(early) + menMet(late);
         }
 
-        /** Lays a gang by the digits of a number, first step first; whether it can walk so. */
-        private boolean isWalk(int gang, int path, int steps) {
-            int rest = path;
+        private void findFirstWalks(int steps) {
+            Arrays.fill(firstWalks, NEVER);
+            int walks = 1;
+            for (int step = 0; step < steps; step++) {
+                walks *= town.streets;
+            }
+            for (int walk = 0; walk < walks; walk++) {
+                if (walkOut(0, walk, steps)) {
+                    int kind = kindWalked(steps);
+                    firstWalks[kind] = Math.min(firstWalks[kind], walk);
+                }
+            }
+        }
+
+        /** A walk is a number whose digits are its streets, so that the first by streets is the least;
+            answers whether there are ways for it. */
+        private boolean walkOut(int gang, int walk, int steps) {
+            int rest = walk;
+            int next = NONE;
             boolean can = true;
             for (int step = steps - 1; step >= 0; step--) {
                 int street = town.streets > 0 ? rest % town.streets : 0;
                 rest = town.streets > 0 ? rest / town.streets : 0;
-                walks[gang * MOST_STEPS + step] = street;
-                can = can && (step == steps - 1 || town.isStep(street, streetOf(gang, step + 1)));
+                walked[gang * MOST_STEPS + step] = street;
+                can = can && (next == NONE || town.isStep(street, next));
+                next = street;
             }
             return can;
         }
 
-        private int firstTakeable(int gang, int steps) {
+        /** Kinds are numbered step by step: the earlier of two is the lower one. */
+        private int kindWalked(int steps) {
             for (int step = 0; step < steps; step++) {
-                int there = takeable[streetOf(gang, step)];
-                if (there > 0) {
-                    return there;
+                int street = streetOf(0, step);
+                if (takeable[street] > 0) {
+                    return step * MOST_STREETS + street;
                 }
             }
-            return 0;
-        }
-
-        private int metOnWalks(int gangCount, int steps) {
-            Arrays.fill(metInStep, NEVER);
-            int met = 0;
-            for (int step = 0; step < steps; step++) {
-                for (int gang = 0; gang < gangCount; gang++) {
-                    int street = streetOf(gang, step);
-                    if (metInStep[street] == NEVER && takeable[street] > 0 && !hasNews(street, step)) {
-                        metInStep[street] = step;
-                        met += takeable[street];
-                    }
-                }
-            }
-            return met;
-        }
-
-        private boolean hasNews(int street, int step) {
-            for (int s = 0; s < town.streets; s++) {
-                if (metInStep[s] < step && step - metInStep[s] >= town.hops(street, s)) {
-                    return true;
-                }
-            }
-            return false;
+            return TO_NOBODY;
         }
     }
 }

@@ -77,7 +77,14 @@ public final class PromiseTests {
         due("streets(8)", x.streets(8), 3);
         due("ways that are gone", x.far(2, 3), NONE);
         due("both were gone", x.far(6, 7), NONE);
+        due("and from the other side", x.far(3, 2), NONE);
+        due("both sides", x.far(7, 6), NONE);
         due("stays again", x.far(0, 2), 2);
+        x.way(0, 7, true);
+        x.streets(7);
+        x.streets(8);
+        due("gone from the first street", x.far(0, 7), NONE);
+        due("gone to the first street", x.far(7, 0), NONE);
         due("streets(1)", x.streets(1), 8);
         x.man(20, 0, 0, 60, 0, 5, 0);
         due("streets(2) with men", x.streets(2), STATE);
@@ -114,6 +121,11 @@ public final class PromiseTests {
         due("the middle", x.far(0, 3), 3);
         x.way(0, 6, false);
         due("when it is gone", x.far(0, 5), 5);
+        PressedMen star = new PressedMen();
+        star.way(0, 1, true);
+        star.way(0, 2, true);
+        star.way(0, 3, true);
+        due("through street 0", star.far(1, 3), 2);
         due("far(8, 0)", x.far(8, 0), UNKNOWN);
         due("far(0, -1)", x.far(0, -1), UNKNOWN);
     }
@@ -143,6 +155,9 @@ public final class PromiseTests {
         due("bad before full", x.man(9, 0, 0, 60, 0, 0, 0), BAD);
         due("unknown before full", x.man(20, 0, 0, 60, 0, 0, 9), UNKNOWN);
         due("count(0)", x.count(0), 40);
+        due("no man 40", x.about(40, 0), UNKNOWN);
+        due("no man 41", x.about(41, 0), UNKNOWN);
+        due("man 39", x.about(39, 0), 20);
     }
 
     private static void p6() {
@@ -276,6 +291,11 @@ public final class PromiseTests {
         y.take(0, NONE);
         y.pass(3);
         due("no news from a ship", y.where(1, 3), 1);
+        PressedMen z = port(1, 0, 0);
+        z.shy(1, true);
+        z.take(0, NONE);
+        z.pass(1);
+        due("also in street 0", z.where(1, 1), 22);
     }
 
     private static void theCrowdSickens() {
@@ -303,6 +323,14 @@ public final class PromiseTests {
         x.tender(1, 0);
         x.pass(1);
         due("rate 0", x.at(20), 2);
+        PressedMen y = port(1, 0, 0);
+        y.tender(0, 2);
+        y.tender(1, 100);
+        y.take(0, NONE);
+        y.pass(1);
+        y.take(1, NONE);
+        y.pass(1);
+        due("no more than there is room for", y.at(20), 2);
     }
 
     private static void theSickGoHome() {
@@ -401,6 +429,8 @@ public final class PromiseTests {
         due("bad before full", x.paper(0, 4, 0, 0, 1, 0, 1, 0, 1), BAD);
         due("unknown before full", openPaper(x, 1), UNKNOWN);
         due("count(2)", x.count(2), 60);
+        due("no paper 60", x.same(60, 0), UNKNOWN);
+        due("no paper 61", x.same(61, 0), UNKNOWN);
     }
 
     private static void p15() {
@@ -492,6 +522,8 @@ public final class PromiseTests {
         due("bad before full", x.act(900), BAD);
         due("without signs", x.fault(7), 0);
         due("count(3)", x.count(3), 8);
+        due("no act 8", x.fault(8), UNKNOWN);
+        due("no act 9", x.fault(9), UNKNOWN);
     }
 
     private static void p19() {
@@ -526,6 +558,9 @@ public final class PromiseTests {
         }
         fault("", 0);
         fault("&", 1);
+        fault("a", 1);
+        fault("a1", 2);
+        fault("a12", NONE);
         fault("&p", 2);
         fault("|!a1", 4);
         fault("x", 0);
@@ -637,6 +672,10 @@ public final class PromiseTests {
         enact(y, 0, "h");
         y.walk(0, 1);
         due("in another street", y.may(0, NONE), 0);
+        enact(y, 0, "!" + "&".repeat(29) + "h".repeat(30));
+        due("sixty signs", y.may(0, NONE), 1);
+        y.walk(0, 0);
+        due("sixty signs at home", y.may(0, NONE), 0);
     }
 
     private static void p23() {
@@ -688,6 +727,9 @@ public final class PromiseTests {
         due("unknown before full", x.take(0, 1), UNKNOWN);
         due("he stays", x.where(0, 0), 0);
         due("count(4)", x.count(4), 60);
+        due("no taking 60", x.taking(60, 0), UNKNOWN);
+        due("no taking 61", x.taking(61, 0), UNKNOWN);
+        due("taking 59", x.taking(59, 1), 0);
     }
 
     private static void p25() {
@@ -899,6 +941,20 @@ public final class PromiseTests {
         // 1 in the first step and 3 in the next: news of 1 would be 2 far, and is there in the third.
         lies(x, 2, 2, 0, 1, 2, 3);
         lies(x, 2, 3, 0, 0, 1, 2, 2, 3);
+        PressedMen y = port(3, 1, 2);
+        enact(y, 0, "h");
+        chain(y, 3);
+        // Who waits in 0 comes too late to 1: it has heard of 2, where the other one must begin.
+        lies(y, 2, 1, 1, 2);
+        lies(y, 2, 2, 1, 0, 2, 1);
+        lies(y, 2, 3, 1, 0, 0, 2, 1, 0);
+        PressedMen z = port(4, 1, 2);
+        enact(z, 0, "h");
+        z.way(0, 1, true);
+        z.way(1, 3, true);
+        z.way(3, 2, true);
+        // News of 2 needs two steps to 1: met there one step before, it is not heard of.
+        lies(z, 2, 3, 0, 0, 1, 3, 2, 2);
         due("gangs 0", x.laid(0, 1, 0, 0), BAD);
         due("gangs 3", x.laid(3, 1, 0, 0), BAD);
         due("h 0", x.laid(1, 0, 0, 0), BAD);
@@ -928,6 +984,9 @@ public final class PromiseTests {
         due("ship 10", x.ship(0, 1, 1, 0), FULL);
         due("bad before full", x.ship(2, 1, 1, 0), BAD);
         due("count(1)", x.count(1), 10);
+        due("no ship 10", x.of(10, 0), UNKNOWN);
+        due("no ship 11", x.of(11, 0), UNKNOWN);
+        due("ship 9", x.of(9, 1), 1);
     }
 
     private static void p35() {
@@ -947,6 +1006,11 @@ public final class PromiseTests {
         due("of(0, 7)", x.of(0, 7), BAD);
         due("of(0, -1)", x.of(0, -1), BAD);
         due("of(1, 7)", x.of(1, 7), UNKNOWN);
+        x.ship(0, 1, 1, 0);
+        x.man(20, 0, 0, 60, 0, 3, 0);
+        x.board(4, 1);
+        due("another ship's men", x.of(1, 5), 1);
+        due("another ship's seamen", x.of(1, 6), 1);
         due("of(-1, 0)", x.of(-1, 0), UNKNOWN);
     }
 
@@ -968,6 +1032,10 @@ public final class PromiseTests {
         due("ship 2", x.spare(2, 4), UNKNOWN);
         x.sail(0);
         due("out", x.spare(0, 0), 3);
+        x.ship(1, 1, 0, 0);
+        x.man(20, 0, 0, 60, 0, 5, 0);
+        x.board(4, 2);
+        due("another ship", x.spare(2, 0), 1);
     }
 
     private static void p37() {
@@ -991,6 +1059,12 @@ public final class PromiseTests {
         due("ship 2", x.board(3, 2), UNKNOWN);
         due("man 5", x.board(5, 0), UNKNOWN);
         due("trade", x.board(3, 1), 1);
+        PressedMen y = port(1, 0, 0, 0);
+        y.ship(0, 1, 0, 0);
+        y.ship(0, 1, 0, 0);
+        due("another ship", y.board(0, 1), 1);
+        due("another ship's second", y.board(1, 1), 2);
+        due("another ship has twice its need", y.board(2, 1), FULL);
     }
 
     private static void p38() {
@@ -1019,6 +1093,14 @@ public final class PromiseTests {
         due("man 5", x.turn(5, 0), UNKNOWN);
         due("ship 3", x.turn(3, 3), UNKNOWN);
         due("from ship to ship", x.turn(2, 2), 11);
+        due("in that other ship", x.turn(2, 2), STATE);
+        PressedMen y = port(1, 0, 0, 0);
+        y.ship(0, 1, 0, 0);
+        y.ship(0, 1, 0, 0);
+        y.board(0, 1);
+        y.board(1, 1);
+        y.board(2, 0);
+        due("another ship is full", y.turn(2, 1), FULL);
     }
 
     private static void p39() {
@@ -1134,6 +1216,13 @@ public final class PromiseTests {
             y.ship(0, 20, 0, 0);
         }
         due("ten ships", y.fleet(0), 12);
+        PressedMen z = port(1, 0, 0);
+        z.ship(0, 1, 0, 0);
+        z.ship(0, 1, 0, 0);
+        z.take(0, NONE);
+        due("the first alone", z.fleet(0), 1);
+        z.take(1, NONE);
+        due("all of them", z.fleet(0), 3);
     }
 
     private static void p42() {
@@ -1153,7 +1242,10 @@ public final class PromiseTests {
         due("men are in it", x.where(0, 0), 10);
         x.board(1, 1);
         due("trade too", x.sail(1), 1);
-        due("ship 2", x.sail(2), UNKNOWN);
+        x.ship(0, 1, 1, 0);
+        x.board(2, 2);
+        due("with a seaman", x.sail(2), 1);
+        due("ship 3", x.sail(3), UNKNOWN);
         due("ship -1", x.sail(-1), UNKNOWN);
     }
 
@@ -1168,7 +1260,12 @@ public final class PromiseTests {
         due("with one", x.comeHome(0), 1);
         due("again", x.comeHome(0), STATE);
         due("of(0, 4)", x.of(0, 4), 1);
-        due("ship 1", x.comeHome(1), UNKNOWN);
+        x.ship(1, 1, 0, 0);
+        x.board(0, 1);
+        x.turn(0, 1);
+        x.sail(1);
+        due("another ship", x.comeHome(1), 1);
+        due("ship 2", x.comeHome(2), UNKNOWN);
     }
 
     private static void p44() {
@@ -1186,6 +1283,8 @@ public final class PromiseTests {
         due("ticket 40", x.ticket(0, 1, 1), FULL);
         due("bad before full", x.ticket(0, 0, 1), BAD);
         due("count(5)", x.count(5), 40);
+        due("no ticket 40", x.ticketOf(40, 3), UNKNOWN);
+        due("no ticket 41", x.ticketOf(41, 3), UNKNOWN);
     }
 
     private static void p45() {
