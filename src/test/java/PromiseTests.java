@@ -293,9 +293,11 @@ public final class PromiseTests {
         due("no news from a ship", y.where(1, 3), 1);
         PressedMen z = port(1, 0, 0);
         z.shy(1, true);
+        z.pass(1);
+        due("nobody hides without news", z.where(1, 1), 0);
         z.take(0, NONE);
         z.pass(1);
-        due("also in street 0", z.where(1, 1), 22);
+        due("also in street 0", z.where(1, 2), 22);
     }
 
     private static void theCrowdSickens() {
@@ -955,6 +957,15 @@ public final class PromiseTests {
         z.way(3, 2, true);
         // News of 2 needs two steps to 1: met there one step before, it is not heard of.
         lies(z, 2, 3, 0, 0, 1, 3, 2, 2);
+        PressedMen apart = port(2, 0, 1);
+        enact(apart, 0, "h");
+        lies(apart, 1, 2, 0, 0);
+        lies(apart, 2, 2, 0, 0, 1, 1);
+        PressedMen lone = port(2, 1);
+        enact(lone, 0, "h");
+        lies(lone, 2, 2, 0, 0, 1, 1);
+        lone.way(0, 1, true);
+        lies(lone, 2, 2, 0, 0, 0, 1);
         due("gangs 0", x.laid(0, 1, 0, 0), BAD);
         due("gangs 3", x.laid(3, 1, 0, 0), BAD);
         due("h 0", x.laid(1, 0, 0, 0), BAD);
